@@ -631,14 +631,7 @@ public final class RingKeepers {
             return true;
         }
 
-        private boolean takePerson(Island land) {
-            return takeNamed(land.personNamed(names[at]));
-        }
-
-        private boolean takeRing(Island land) {
-            return takeNamed(land.ringNamed(names[at]));
-        }
-
+        /** A NAME, and which of its sort it is told for: NONE, if it is not. */
         private boolean takeNamed(int number) {
             if (kinds[at] != NAME) {
                 return fail(CANNOT_COME);
@@ -810,11 +803,11 @@ public final class RingKeepers {
                 return false;
             }
             size[r] = in.taken;
-            if (!in.takePerson(this)) {
+            if (!in.takeNamed(personNamed(in.name()))) {
                 return false;
             }
             owner[r] = in.taken;
-            if (!in.takePerson(this)) {
+            if (!in.takeNamed(personNamed(in.name()))) {
                 return false;
             }
             keeper[r] = in.taken;
@@ -1253,7 +1246,7 @@ public final class RingKeepers {
             if (in.key() == Word.DAY) {
                 return true;
             }
-            if (!in.takePerson(land)) {
+            if (!in.takeNamed(land.personNamed(in.name()))) {
                 return false;
             }
             who[size] = in.taken;
@@ -1300,14 +1293,14 @@ public final class RingKeepers {
 
         private boolean readRingAct(Reader in, int code, Island land) {
             readBare(in, code);
-            if (!in.takeRing(land)) {
+            if (!in.takeNamed(land.ringNamed(in.name()))) {
                 return false;
             }
             first[size] = in.taken;
             if (code != HAND) {
                 return true;
             }
-            if (!in.takePerson(land)) {
+            if (!in.takeNamed(land.personNamed(in.name()))) {
                 return false;
             }
             second[size] = in.taken;
@@ -1472,9 +1465,9 @@ public final class RingKeepers {
                     put(what, 0, 0);
                     return true;
                 case HAS:
-                    return in.takeRing(land) && putTaken(in, what, 0);
+                    return in.takeNamed(land.ringNamed(in.name())) && putTaken(in, what, 0);
                 case BY:
-                    return in.takePerson(land) && putTaken(in, what, 0);
+                    return in.takeNamed(land.personNamed(in.name())) && putTaken(in, what, 0);
                 default:
                     char itsSign = signAt(in);
                     return in.takeSign(itsSign) && in.takeNumber(0, 999) && putTaken(in, what, itsSign);

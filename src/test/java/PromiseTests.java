@@ -288,6 +288,13 @@ public final class PromiseTests {
         for (int what : new int[] {-1, 7, Integer.MAX_VALUE}) {
             c.due("now " + what, x.now(what), -1);
         }
+        RingKeepers z = Checks.on("person a 19 19 5;");
+        c.due("go to the farthest place", z.go(0, 20, 20), 0);
+        c.due("go: x beyond it", z.go(0, 21, 20), -1);
+        c.due("go: y beyond it", z.go(0, 20, 21), -1);
+        c.due("go: x ahead of all", z.go(0, -1, 20), -1);
+        Checks.isle(z, "person a 1 1 5;");
+        c.due("go to the first place", z.go(0, 0, 0), 0);
         RingKeepers y = Checks.on(TWO);
         y.hand(1, 0, 0);
         y.days(1);
@@ -553,6 +560,11 @@ public final class PromiseTests {
         }
         c.due("odds of eight seeds", x.odds(0, 8, Integer.MAX_VALUE - 3), sum);
         c.due("odds change nothing", x.now(0), 0);
+        int thirty = 0;
+        for (int seed = 0; seed < 30; seed++) {
+            thirty += x.odds(0, 1, seed);
+        }
+        c.due("odds of thirty seeds", x.odds(0, 30, 0), thirty);
         // seed 0: 12345 >>> 8 is 48, of 6: 0, he goes; the next two draws are by hand
         RingKeepers y = Checks.on("person a 10 10 5;walk 20;");
         int s = 12345;
