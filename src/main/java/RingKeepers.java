@@ -831,42 +831,38 @@ public final class RingKeepers {
         }
 
         private boolean readFit(Reader in) {
-            if (isFitTold) {
-                return in.fail(Reader.WRONG_NAME);
-            }
-            isFitTold = true;
-            in.advance();
-            if (!in.takeNumber(0, 5)) {
+            if (!takeOnce(in, isFitTold, 0, 5)) {
                 return false;
             }
+            isFitTold = true;
             fit = in.taken;
             return true;
         }
 
         private boolean readWalk(Reader in) {
-            if (isWalkTold) {
-                return in.fail(Reader.WRONG_NAME);
-            }
-            isWalkTold = true;
-            in.advance();
-            if (!in.takeNumber(1, 20)) {
+            if (!takeOnce(in, isWalkTold, 1, 20)) {
                 return false;
             }
+            isWalkTold = true;
             walk = in.taken;
             return true;
         }
 
         private boolean readJingle(Reader in) {
-            if (isJingleTold) {
-                return in.fail(Reader.WRONG_NAME);
-            }
-            isJingleTold = true;
-            in.advance();
-            if (!in.takeNumber(2, 9)) {
+            if (!takeOnce(in, isJingleTold, 2, 9)) {
                 return false;
             }
+            isJingleTold = true;
             jingle = in.taken;
             return true;
+        }
+
+        private static boolean takeOnce(Reader in, boolean isTold, int least, int greatest) {
+            if (isTold) {
+                return in.fail(Reader.WRONG_NAME);
+            }
+            in.advance();
+            return in.takeNumber(least, greatest);
         }
     }
 
@@ -960,19 +956,17 @@ public final class RingKeepers {
         }
 
         private int ringsThatAre(int wanted) {
-            int bits = 0;
-            for (int r = 0; r < land.rings; r++) {
-                if (how[r] == wanted) {
-                    bits |= 1 << r;
-                }
-            }
-            return bits;
+            return ringsWith(how, wanted);
         }
 
         private int ringsThatWere(int wanted) {
+            return ringsWith(outcome, wanted);
+        }
+
+        private int ringsWith(int[] ofRings, int wanted) {
             int bits = 0;
             for (int r = 0; r < land.rings; r++) {
-                if (outcome[r] == wanted) {
+                if (ofRings[r] == wanted) {
                     bits |= 1 << r;
                 }
             }
@@ -1119,8 +1113,7 @@ public final class RingKeepers {
 
         private void drawAct(int p) {
             switch (draw(6)) {
-                case 0:
-                case 1:
+                case 0: case 1:
                     int toX = draw(SIDE + 1);
                     int toY = draw(SIDE + 1);
                     walkTo(p, toX, toY);
@@ -1146,9 +1139,8 @@ public final class RingKeepers {
 
         private int daysTillMet(int r) {
             int p = land.owner[r];
-            boolean isLost = how[r] == LOST;
             int far = farTo(p, ringX(r), ringY(r));
-            int eachDay = isLost ? land.walk : 2 * land.walk;
+            int eachDay = how[r] == LOST ? land.walk : 2 * land.walk;
             return far == 0 || eachDay < 1 ? 0 : (far - 1) / eachDay;
         }
     }

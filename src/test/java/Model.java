@@ -27,7 +27,7 @@ final class Model {
         }
     }
 
-    private static final class Person implements Cloneable {
+    private static final class Person {
         String name;
         int x;
         int y;

@@ -18,6 +18,7 @@ public final class PromiseTests {
         undo();
         reachAndInTime();
         tour();
+        tourOneBehindTheOther();
         keepers();
         sizes();
         ways();
@@ -425,7 +426,25 @@ public final class PromiseTests {
         RingKeepers y = Checks.on("person a 10 10 5;person b 9 10 5;person c 11 10 5;person d 10 9 5;person e 10 11 5;"
             + "ring p 5 e a 0;ring q 5 d a 0;ring r 5 c a 0;ring s 5 b a 0;ring t 5 c a 0;");
         c.due("a cross", y.tour(0), 7);
+        c.due("twice his is once", y.tourAt(4), -1);
         c.due("the first of like ones", y.tourAt(0) * 1000 + y.tourAt(1) * 100 + y.tourAt(2) * 10 + y.tourAt(3), 1234);
+    }
+
+    private static void tourOneBehindTheOther() { // 19, 20
+        RingKeepers x = Checks.on("person a 10 0 5;person b 0 0 5;person c 2 0 5;person d 20 0 5;person e 12 0 5;"
+            + "ring p 5 b a 0;ring q 5 c a 0;ring r 5 d a 0;ring s 5 e a 0;ring t 5 a a 0;");
+        c.due("one side, then the other", x.tour(0), 30);
+        int[] way = {1, 2, 4, 3, -1}; // c on the way back from b: as far, and b is the first
+        Checks.isle(x, "person a 9 0 5;person b 0 0 5;person c 2 0 5;person d 20 0 5;person e 12 0 5;"
+            + "ring p 5 b a 0;ring q 5 c a 0;ring r 5 d a 0;ring s 5 e a 0;ring t 5 a a 0;");
+        c.due("the nearer side first", x.tour(0), 29);
+        for (int k = 0; k < way.length; k++) {
+            c.due("stop " + k, x.tourAt(k), way[k]);
+        }
+        x.wear(0, 0);
+        c.due("worn ones are not brought", x.tour(0), 25);
+        c.due("stop", x.tourAt(0), 2);
+        c.due("stop", x.tourAt(1), 4);
     }
 
     private static void keepers() { // 21, 22
@@ -476,6 +495,12 @@ public final class PromiseTests {
         c.due("tight", Checks.sizes(x, 0, 0), 3);
         c.due("least", x.sizeLeast(), 1);
         c.due("of like ones the first", x.knuckle(), 0);
+        Checks.isle(x, "person a 0 0 20;fit 0;");
+        c.due("nineteen", Checks.sizes(x, 0, 0), 19);
+        c.due("though it tells nothing", x.knuckle(), 0);
+        c.due("one", Checks.sizes(x, 0, 1), 1);
+        c.due("the greatest", x.sizeLeast(), 20);
+        c.due("least again", Checks.sizes(x, 0, 0) * 10 + x.sizeLeast(), 191);
         c.due("not as told", Checks.sizes(x), -1);
         c.due("stays", x.sizeLeast(), 1);
     }
