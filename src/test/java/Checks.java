@@ -38,6 +38,14 @@ final class Checks {
         due("ring(" + r + ", " + what + ") throws", thrown, true);
     }
 
+    int wrong() {
+        return wrong;
+    }
+
+    void due(String call, String got, String want) {
+        due(call + ": '" + got + "', due is '" + want + "'", got.equals(want), true);
+    }
+
     void close(String name) {
         System.out.println(name + ": " + many + " answers, " + wrong + " not as due");
         if (wrong != 0) {
@@ -91,6 +99,43 @@ final class Checks {
         }
         tape(x, text.toString());
         return x.sizes();
+    }
+
+    /** ISLAND, all that is so, and the SENTENCE, as far as it tells: to see whether a call changed something. */
+    static String so(RingKeepers x) {
+        StringBuilder text = new StringBuilder();
+        for (int what = 0; what < 5; what++) {
+            text.append(x.count(what)).append(' ');
+        }
+        for (int what = 0; what < 7; what++) {
+            text.append(x.now(what)).append(' ');
+        }
+        for (int p = 0; p < x.count(0); p++) {
+            for (int what = 0; what < 7; what++) {
+                text.append(x.person(p, what)).append(' ');
+            }
+        }
+        for (int r = 0; r < x.count(1); r++) {
+            for (int what = 0; what < 8; what++) {
+                text.append(x.ring(r, what)).append(' ');
+            }
+        }
+        for (int k = -1; k < x.count(0); k++) {
+            text.append(x.said(k)).append(' ');
+        }
+        return text.toString();
+    }
+
+    /** What calls told last. */
+    static String last(RingKeepers x) {
+        StringBuilder text = new StringBuilder();
+        for (int i = 0; i < 7; i++) {
+            text.append(x.tourAt(i)).append(' ').append(x.keeperOf(i)).append(' ').append(x.byteAt(i)).append(' ');
+        }
+        for (int what = 0; what < 4; what++) {
+            text.append(x.told(what)).append(' ');
+        }
+        return text.append(x.sizeLeast()).append(' ').append(x.knuckle()).append(' ').append(x.fault()).toString();
     }
 
     static String noteOf(RingKeepers x, int p) {
