@@ -1705,13 +1705,13 @@ public final class RingKeepers {
                 return NONE;
             }
             int bits = 0;
-            for (int size = 1; size <= GREATEST; size++) {
+            for (int size = GREATEST; size >= 1; size--) {
                 if (isJustSo(land, tape, size)) {
                     bits |= 1 << size;
+                    least = size;
                 }
             }
             if (bits != 0) {
-                least = Integer.numberOfTrailingZeros(bits);
                 nextPerson = bestToTry(land, bits);
             }
             return Integer.bitCount(bits);

@@ -217,6 +217,8 @@ final class ActBounds {
         c.due("missed", x.now(4), 1);
         Checks.isle(x, TWO);
         c.due("missed no more", x.now(4), 0);
+        c.due("nothing of the one ahead is undone", x.undo(), -1);
+        c.due("day", x.now(0), 0);
     }
 
     @Says("The kind of the FAULT of the latest island(), book() or sentence()")
@@ -990,6 +992,22 @@ final class ActBounds {
         c.due("undo hand", x.undo(), 0);
         c.due("kept again", x.ring(0, 2), 1);
         c.due("handed again", x.now(5), 0);
+    }
+
+    @Says("find() that was done,")
+    static void p16_lostAgainElsewhereIsUndone(Checks c) {
+        RingKeepers x = withALostOne();
+        x.go(0, 3, 4);
+        x.find(0, 1);
+        x.go(0, 5, 4);
+        String kept = Checks.so(x);
+        x.days(1);
+        c.due("lost again", x.ring(1, 6) * 100 + x.ring(1, 7), 504);
+        isUndone(c, x, kept, 6);
+        x.undo();
+        c.due("undo the finding", x.undo(), 4);
+        c.due("where it was lost at first", x.ring(1, 6) * 100 + x.ring(1, 7), 304);
+        c.due("found there", x.find(1, 1), 0);
     }
 
     @Says("that was done, days() above 0, drawn() above 0,")

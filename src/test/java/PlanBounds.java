@@ -139,6 +139,14 @@ final class PlanBounds {
         c.due("all of them", tourOf(x), "246135");
     }
 
+    @Says("who stay, one behind the other;")
+    static void p19_oneBehindTheOther(Checks c) {
+        RingKeepers x = Checks.on("person a 0 0 5;person b 5 0 5;person d 5 5 5;person e 0 6 5;ring p 5 e a 0;ring q 5 d a 0;"
+            + "ring r 5 b a 0;");
+        c.due("round about", x.tour(0), 16);
+        c.due("d from b, though e is nearer to a", tourOf(x), "123");
+    }
+
     @Says("(but himself) whose RINGS he keeps,")
     static void p19_whoseRingsHeKeepsButHimself(Checks c) {
         RingKeepers x = Checks.on("person a 0 0 5;person b 5 0 5;person d 0 6 5;ring p 5 a a 0;ring q 5 b a 0;ring r 5 b a 0;"
@@ -290,6 +298,9 @@ final class PlanBounds {
         Checks.isle(x, "person a 0 0 5;person b 0 0 5;ring p 5 b a 0;");
         x.keepers();
         c.due("the latest", keepersOf(x, 3), "0 -1 -1");
+        Checks.isle(x, "person a 0 0 5;");
+        x.keepers();
+        c.due("one without rings", x.keeperOf(0), -1);
     }
 
     @Says("NONE: it was LOST, no such one, or ahead of any.")
@@ -426,7 +437,29 @@ final class PlanBounds {
         c.due("20: all are alike", x.knuckle(), 0);
         Checks.isle(x, "person a 0 0 6;person b 0 0 4;person d 0 0 10;fit 0;");
         Checks.sizes(x, 2, 0);
-        c.due("1 to 9: 5 by a, 5 by b", x.knuckle(), 0);
+        c.due("1 to 9: 5 tight by a, 5 loose by b", x.knuckle(), 0);
+        Checks.isle(x, "person a 0 0 4;person b 0 0 6;person d 0 0 10;fit 0;");
+        Checks.sizes(x, 2, 0);
+        c.due("1 to 9: 5 loose by a, 5 tight by b", x.knuckle(), 0);
+        Checks.isle(x, "person a 0 0 14;person b 0 0 7;person d 0 0 10;fit 3;");
+        Checks.sizes(x, 2, 1);
+        c.due("7 to 13: 4 tight by a, 4 fit b", x.knuckle(), 0);
+    }
+
+    @Says("the greatest number of these that may still be left")
+    static void p25_leastAndGreatestSizesCount(Checks c) {
+        RingKeepers x = Checks.on("person a 0 0 17;person b 0 0 18;person d 0 0 15;fit 0;");
+        Checks.sizes(x, 2, 2);
+        c.due("16 to 20: 18 to 20 loose by a, 19 to 20 by b", x.knuckle(), 1);
+        Checks.isle(x, "person a 0 0 4;person b 0 0 3;person d 0 0 6;fit 0;");
+        Checks.sizes(x, 2, 0);
+        c.due("1 to 5: 1 to 3 tight by a, 1 to 2 by b", x.knuckle(), 1);
+        Checks.isle(x, "person a 0 0 20;fit 0;");
+        c.due("the most there are", Checks.sizes(x, 0, 0), 19);
+        c.due("he alone", x.knuckle(), 0);
+        Checks.isle(x, "person a 0 0 1;fit 0;");
+        c.due("the most there are", Checks.sizes(x, 0, 2), 19);
+        c.due("he alone", x.knuckle(), 0);
     }
 
     @Says("NONE ahead of any.")
@@ -510,6 +543,18 @@ final class PlanBounds {
         RingKeepers x = Checks.on("person a 0 0 9;person b 0 0 5;person d 0 0 5;ring p 5 a a 0;ring q 5 a a 0;");
         c.due("b and d alike", x.likely(0), 1);
         c.due("b and d alike", x.likely(1), 1);
+        Checks.isle(x, "person a 0 0 9;person b 0 0 5;person d 0 0 5;ring p 5 a a 0;");
+        c.due("of one ring", x.likely(0), 1);
+        StringBuilder text = new StringBuilder();
+        for (int i = 0; i < 7; i++) {
+            text.append("person ").append((char) ('a' + i)).append(" 0 0 ").append(i == 6 ? 7 : 5).append(";");
+        }
+        for (int i = 0; i < 7; i++) {
+            text.append("ring ").append((char) ('p' + i)).append(' ').append(i == 3 ? 7 : 5).append(" a a 0;");
+        }
+        Checks.isle(x, text.toString());
+        c.due("seven of seven: the one who alone can", x.likely(3), 6);
+        c.due("seven of seven: all but him alike", x.likely(6), 0);
     }
 
     @Says("NONE: there are no WAYS, no such one.")

@@ -25,6 +25,7 @@ public final class SourceTests {
         classesAreSmall();
         namesAreFree();
         wordsAreAllowed(lines);
+        libraryIsAllowed(lines);
         methodsAreShort(lines);
         callsMakeNothing(lines);
         c.close("SourceTests");
@@ -121,6 +122,17 @@ public final class SourceTests {
             boolean isImport = line.startsWith("import ");
             c.due("import", !isImport || line.equals("import java.util.NoSuchElementException;"), true);
             c.due("line " + (i + 1) + " throws", !line.contains("throw new") || line.contains("new NoSuchElementException()"), true);
+        }
+    }
+
+    private static void libraryIsAllowed(List<String> lines) { // rule 4
+        Set<String> told = Set.of("Integer.bitCount", "Math.min", "Math.max", "Math.abs", "System.arraycopy");
+        Pattern call = Pattern.compile("\\b(Integer|Long|Math|System|Arrays|Character|String|Objects|Byte|Short)\\.\\w+");
+        for (String line : lines) {
+            Matcher m = call.matcher(line);
+            while (m.find()) {
+                c.due("library: " + m.group(), told.contains(m.group()), true);
+            }
         }
     }
 

@@ -220,6 +220,30 @@ final class StoryBounds {
         c.due("nothing more to undo", x.undo(), 1);
     }
 
+    @Says("behind 20 DAYS DRAWN")
+    static void p33_neitherLessNorMoreThan20(Checks c) {
+        String island = "person a 1 1 5;person b 1 1 5;ring p 5 a b 3;walk 1;";
+        int[] others = new int[2];
+        for (int from = 0; from < 240; from += 24) {
+            RingKeepers x = Checks.on(island);
+            for (int seed = from; seed < from + 24; seed++) {
+                int odds = x.odds(0, 1, seed);
+                c.due("20 days by " + seed, odds, withWhoseItIs(x, 20, seed));
+                others[0] += odds != withWhoseItIs(x, 19, seed) ? 1 : 0;
+                others[1] += odds != withWhoseItIs(x, 21, seed) ? 1 : 0;
+            }
+        }
+        c.due("19 days are not the same", others[0] > 0, true);
+        c.due("21 days are not the same", others[1] > 0, true);
+    }
+
+    private static int withWhoseItIs(RingKeepers x, int days, int seed) {
+        x.drawn(days, seed);
+        int is = x.ring(0, 2) == x.ring(0, 1) ? 1 : 0;
+        x.undo();
+        return is;
+    }
+
     @Says("is with whose it is")
     static void p33_keptOrWorn(Checks c) {
         RingKeepers x = Checks.on("person a 1 1 5;ring p 5 a a 3;");
@@ -269,6 +293,15 @@ final class StoryBounds {
         y.doff(1);
         y.go(0, 4, 4);
         c.due("as by seven calls", Checks.so(x), Checks.so(y));
+    }
+
+    @Says("or lived as far as it is not WRONG (1):")
+    static void p34_lostOnesOfALivedBook(Checks c) {
+        RingKeepers x = Checks.on(TWO);
+        c.due("lost", Checks.book(x, 1, "b hands r a;a goes 5 5;day 1;"), -1);
+        c.due("where", x.ring(1, 6) * 100 + x.ring(1, 7), 505);
+        c.due("found in another", Checks.book(x, 1, "b goes 5 5;b finds s;"), -1);
+        c.due("by whom", x.ring(1, 2), 1);
     }
 
     @Says({"the LINE that is WRONG;", "NONE: none;"})
@@ -556,7 +589,12 @@ final class StoryBounds {
         c.due("not not", said(c, x, "not not number = 2"), 4);
         c.due("many", said(c, x, "number=0 and number=1 or number=2 and number>1 or number=3 and not number=3"), 4);
         c.due("deep", said(c, x, "not(not(not(number<2 or(number=3))))"), 4);
-        c.due("twenty", said(c, x, "number=0" + " or bare".repeat(9) + " and bare".repeat(10)), 15);
+        c.due("and of a bracket", said(c, x, "number=2 and (number=2 and number=2)"), 4);
+        c.due("or of a bracket", said(c, x, "number=2 or (number=1 or number=0)"), 7);
+        c.due("and of or", said(c, x, "number=2 and (number=1 or number=2)"), 4);
+        c.due("twenty, or at the end", said(c, x, "bare" + " and bare".repeat(17) + " and number=0 or number=3"), 9);
+        c.due("twenty, and at the end", said(c, x, "bare" + " and bare".repeat(18) + " and number=2"), 4);
+        c.due("twenty, the first", said(c, x, "number=2" + " and bare".repeat(19)), 4);
     }
 
     @Says({"PERSONS of whom it may be said: how many (k NONE), or the k-th.", "It is said of PERSONS."})
@@ -622,6 +660,22 @@ final class StoryBounds {
         c.due("its names", Checks.noteOf(x, 0), "a keeps 1 for a");
         c.due("restore 0 again", x.restore(0), true);
         c.due("the first again", Checks.so(x), three);
+    }
+
+    @Says("all that is so")
+    static void p38_lostOnesAreKept(Checks c) {
+        RingKeepers x = new RingKeepers();
+        for (int k = 0; k < 2; k++) {
+            Checks.isle(x, TWO.replace("3 4", k == 0 ? "6 7" : "8 9"));
+            x.hand(1, 0, 0);
+            x.days(1);
+            x.image(k);
+        }
+        for (int k = 0; k < 2; k++) {
+            x.restore(k);
+            c.due("where it was lost", x.ring(1, 6) * 100 + x.ring(1, 7), k == 0 ? 607 : 809);
+            c.due("found there", x.find(1, 1), 0);
+        }
     }
 
     @Says("false: no such one.")

@@ -8,38 +8,61 @@ final class TextBounds {
     private TextBounds() {
     }
 
+    /** One that has read texts of each kind: none of them may show in the next. */
+    private static RingKeepers used() {
+        RingKeepers x = Checks.on("person z 1 1 9;ring zz 9 z z 9;fit 4;walk 4;jingle 4;fit 4");
+        Checks.isle(x, "fit 3;walk 2;jingle 2;" + TWO.replace("jingle 2;", ""));
+        Checks.book(x, 0, "a goes 1 1;b hands r a;");
+        Checks.sentence(x, "keeps < 5 or has r and by a");
+        return x;
+    }
+
     private static void good(Checks c, String text, int lines) {
-        RingKeepers x = new RingKeepers();
+        goodOn(c, new RingKeepers(), text, lines);
+        goodOn(c, used(), text, lines);
+    }
+
+    private static void goodOn(Checks c, RingKeepers x, String text, int lines) {
         c.due("island of " + text, Checks.isle(x, text), lines);
         c.due("fault of " + text, x.fault(), 0);
     }
 
     private static void bad(Checks c, String text, int place, int kind) {
-        RingKeepers x = new RingKeepers();
+        badOn(c, new RingKeepers(), text, place, kind);
+        badOn(c, used(), text, place, kind);
+    }
+
+    private static void badOn(Checks c, RingKeepers x, String text, int place, int kind) {
         c.due("island of " + text, Checks.isle(x, text), -1 - place);
         c.due("fault of " + text, x.fault(), kind);
     }
 
+    private static RingKeepers usedOnTwo() {
+        RingKeepers x = used();
+        Checks.isle(x, TWO);
+        return x;
+    }
+
     private static void goodBook(Checks c, String text) {
-        RingKeepers x = Checks.on(TWO);
+        RingKeepers x = usedOnTwo();
         c.due("book of " + text, Checks.book(x, 0, text) >= -1, true);
         c.due("fault of " + text, x.fault(), 0);
     }
 
     private static void badBook(Checks c, String text, int place, int kind) {
-        RingKeepers x = Checks.on(TWO);
+        RingKeepers x = usedOnTwo();
         c.due("book of " + text, Checks.book(x, 0, text), -2 - place);
         c.due("fault of " + text, x.fault(), kind);
     }
 
     private static void goodSentence(Checks c, String text, int ones) {
-        RingKeepers x = Checks.on(TWO);
+        RingKeepers x = usedOnTwo();
         c.due("sentence of " + text, Checks.sentence(x, text), ones);
         c.due("fault of " + text, x.fault(), 0);
     }
 
     private static void badSentence(Checks c, String text, int place, int kind) {
-        RingKeepers x = Checks.on(TWO);
+        RingKeepers x = usedOnTwo();
         c.due("sentence of " + text, Checks.sentence(x, text), -1 - place);
         c.due("fault of " + text, x.fault(), kind);
     }
@@ -429,10 +452,29 @@ final class TextBounds {
         bad(c, "fit 3" + blanks(900), 900, 1);
         bad(c, blanks(900) + "?", 900, 1);
         bad(c, blanks(930) + "fit 9;", 900, 1);
+        bad(c, "fit" + blanks(900), 900, 1);
+        bad(c, "person a" + blanks(900), 900, 1);
         badBook(c, blanks(401), 400, 1);
         badBook(c, "day 1" + blanks(500), 400, 1);
+        badBook(c, "day" + blanks(500), 400, 1);
+        badBook(c, "b hands r" + blanks(500), 400, 1);
         badSentence(c, "bare" + blanks(197), 200, 1);
+        badSentence(c, "bare or" + blanks(197), 200, 1);
         badSentence(c, blanks(300), 200, 1);
+    }
+
+    @Says("the most bytes told, if there are more")
+    static void p05_tokensBehindTheMostBytesAreNotRead(Checks c) {
+        bad(c, "fit" + blanks(897) + "9;", 900, 1);
+        bad(c, "fit 1;" + blanks(894) + "fit 1;", 900, 1);
+        bad(c, persons(7) + blanks(795) + "person", 900, 1);
+        bad(c, A + "ring r 5 a" + blanks(875) + "q 1;", 900, 1);
+        bad(c, "fit 3;" + blanks(894) + ";", 900, 1);
+        badBook(c, "day" + blanks(397) + "99;", 400, 1);
+        badBook(c, "day 1;".repeat(40) + blanks(160) + "day 1;", 400, 1);
+        badBook(c, "a wears" + blanks(393) + "q;", 400, 1);
+        badSentence(c, "has" + blanks(197) + "q", 200, 1);
+        badSentence(c, "not not not not not not not not" + blanks(169) + "bare", 200, 1);
     }
 
     @Says("if there are more and no FAULT is ahead")
