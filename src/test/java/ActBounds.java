@@ -194,6 +194,41 @@ final class ActBounds {
         c.due("can be undone", x.undo(), 2);
     }
 
+    /** What a run of calls of each kind answers. */
+    private static String lifeOn(RingKeepers x) {
+        StringBuilder text = new StringBuilder(Checks.answers(x));
+        text.append('\n').append(x.go(2, 2, 2)).append(x.go(4, 2, 2)).append(x.hand(1, 0, 0)).append(x.hand(0, 0, 1));
+        text.append(x.wear(1, 0)).append(x.wear(0, 1)).append(x.doff(1)).append(x.doff(4)).append(x.days(1));
+        text.append(x.find(0, 1)).append(x.find(1, 1)).append(x.find(0, 3)).append('\n').append(Checks.so(x));
+        text.append(Checks.book(x, 1, "cid goes 2 3;day 2;ann goes 4 4;")).append(' ').append(x.fault());
+        text.append(Checks.book(x, 1, "a goes 3 3;")).append(' ').append(x.fault());
+        text.append(Checks.sentence(x, "has r or by cid")).append(Checks.sentence(x, "has k")).append(x.said(-1));
+        x.image(0);
+        Checks.isle(x, TWO);
+        text.append('\n').append(x.restore(0)).append(Checks.so(x));
+        return text.toString();
+    }
+
+    @Says("a FAULT: it stays.")
+    static void p04_faultyIslandShowsInNoCall(Checks c) {
+        String island = "person ann 1 1 5;person bob 1 1 6;person cid 1 1 7;person dan 20 20 5;"
+            + "ring r 6 cid bob 3;ring s 5 ann bob 2;ring t 5 dan ann 0;walk 3;jingle 2;";
+        StringBuilder more = new StringBuilder();
+        for (int i = 0; i < 7; i++) {
+            more.append("person ").append((char) ('a' + i)).append(" 9 9 12;");
+        }
+        for (int i = 0; i < 7; i++) {
+            more.append("ring ").append((char) ('k' + i)).append(" 20 g g 300;");
+        }
+        more.append("fit 5;walk 20;jingle 9;?");
+        String want = lifeOn(Checks.on(island));
+        for (String faulty : new String[] {more.toString(), "?", "person z 5 5 5;ring zz 1 z z 0;?"}) {
+            RingKeepers x = Checks.on(island);
+            c.due("a fault", Checks.isle(x, faulty) < 0, true);
+            c.due("as without it", lifeOn(x), want);
+        }
+    }
+
     @Says({"A new ISLAND: DAY 0,", "nothing WORN or LOST, nothing HAD or MISSED, no SENTENCE."})
     static void p04_newIslandBeginsAnew(Checks c) {
         RingKeepers x = Checks.on(TWO);
@@ -470,9 +505,13 @@ final class ActBounds {
         for (int p : NO_PERSON_OF_TWO) {
             c.due("person " + p, x.fits(0, p), -1);
         }
+        c.due("the last person", x.fits(0, 1), 1);
         for (int r : new int[] {-1, 1, 7, Integer.MIN_VALUE, Integer.MAX_VALUE}) {
             c.due("ring " + r, x.fits(r, 0), -1);
         }
+        Checks.isle(x, "person a 0 0 5;ring r 5 a a 0;ring s 5 a a 0;");
+        c.due("the last ring", x.fits(1, 0), 1);
+        c.due("no second person", x.fits(0, 1), -1);
     }
 
     // 9
@@ -646,6 +685,9 @@ final class ActBounds {
         x.go(0, 2, 4);
         c.due("in one place", x.hand(1, 0, 0), 0);
         c.due("handed", x.now(5), 1);
+        Checks.isle(x, "person a 1 1 5;person b 2 2 5;person d 1 1 5;ring p 5 a a 0;ring q 5 a a 0;");
+        c.due("the second to the third", x.hand(0, 1, 2), 0);
+        c.due("the first to the second", x.hand(0, 0, 1), 3);
     }
 
     @Says("it is KEPT by the other one.")
@@ -671,6 +713,12 @@ final class ActBounds {
         }
         c.due("the second ring", x.hand(1, 1, 0), -1);
         c.due("nothing is done", x.undo(), -1);
+        c.due("the last person", x.hand(1, 0, 0), 0);
+        c.due("to the last person", x.hand(0, 0, 1), 0);
+        Checks.isle(x, "person a 3 4 5;person b 3 4 6;ring r 5 a b 0;ring s 5 a b 0;ring t 5 a b 0;");
+        c.due("no third person", x.hand(2, 0, 0), -1);
+        c.due("to no third person", x.hand(1, 0, 2), -1);
+        c.due("the last ring", x.hand(1, 2, 0), 0);
     }
 
     // 12
@@ -730,6 +778,10 @@ final class ActBounds {
         }
         c.due("the second ring", x.wear(1, 1), -1);
         c.due("nothing is done", x.undo(), -1);
+        c.due("the last person", x.wear(1, 0), 0);
+        Checks.isle(x, "person a 3 4 5;ring r 5 a a 0;ring s 5 a a 0;");
+        c.due("no second person", x.wear(1, 0), -1);
+        c.due("the last ring", x.wear(0, 1), 0);
     }
 
     // 13
@@ -762,6 +814,10 @@ final class ActBounds {
         for (int p : NO_PERSON_OF_TWO) {
             c.due("person " + p, x.doff(p), -1);
         }
+        Checks.isle(x, "person a 3 4 5;person b 3 4 5;");
+        c.due("the last person", x.doff(1), 1);
+        Checks.isle(x, "person a 3 4 5;ring r 5 a a 0;ring s 5 a a 0;");
+        c.due("no second person", x.doff(1), -1);
     }
 
     // 14
@@ -788,6 +844,18 @@ final class ActBounds {
         c.due("x off by one", x.find(0, 1), 2);
         c.due("go", x.go(0, 3, 4), 0);
         c.due("there", x.find(0, 1), 0);
+        Checks.isle(x, "person a 1 2 5;person b 8 9 5;ring r 5 a a 0;ring s 5 a a 0;ring t 5 a a 0;jingle 2;walk 20;");
+        x.days(2);
+        c.due("b is not there", x.find(1, 1), 2);
+        x.go(1, 1, 9);
+        c.due("x alone", x.find(1, 1), 2);
+        x.go(1, 8, 2);
+        x.days(1);
+        c.due("y alone", x.find(1, 2), 2);
+        x.go(1, 1, 2);
+        x.go(0, 8, 9);
+        c.due("he who lost it is not", x.find(0, 2), 2);
+        c.due("b is", x.find(1, 2), 0);
     }
 
     @Says("where it was LOST: it is KEPT by him.")
@@ -811,6 +879,14 @@ final class ActBounds {
             c.due("ring " + bad, x.find(1, bad), -1);
         }
         c.due("still lost", x.now(2), 2);
+        Checks.isle(x, "person a 3 4 5;person b 3 4 5;person d 3 4 5;ring r 5 a a 0;ring s 5 a a 0;jingle 2;");
+        x.days(1);
+        c.due("no third ring", x.find(2, 2), -1);
+        c.due("the last person", x.find(2, 1), 0);
+        Checks.isle(x, "person a 3 4 5;ring r 5 a a 0;ring s 5 a a 0;jingle 2;");
+        x.days(1);
+        c.due("no second person", x.find(1, 1), -1);
+        c.due("the last ring", x.find(0, 1), 0);
     }
 
     // 15
@@ -920,6 +996,10 @@ final class ActBounds {
         c.due("two are lost", x.now(2), 4 | 8);
         c.due("where a is", x.ring(2, 6) * 100 + x.ring(2, 7), 102);
         c.due("where b is", x.ring(3, 6) * 100 + x.ring(3, 7), 304);
+        Checks.isle(x, "person a 1 2 5;person b 3 4 5;person d 5 6 5;person e 7 8 5;ring p 5 a e 9;ring q 5 a e 9;jingle 2;");
+        x.days(1);
+        c.due("the last of more persons than rings", x.now(2), 2);
+        c.due("where he is", x.ring(1, 6) * 100 + x.ring(1, 7), 708);
     }
 
     @Says("the one of these with the greatest number is LOST where he is.")
@@ -1050,6 +1130,9 @@ final class ActBounds {
         Checks.book(x, 1, "b hands r a;day 2;a goes 3 5;a goes 3 5;");
         isUndone(c, x, so, 0);
         Checks.book(x, 1, "day 1;");
+        isUndone(c, x, so, 0);
+        Checks.book(x, 1, "b hands r a;");
+        c.due("lived on day 0", x.ring(0, 2), 0);
         isUndone(c, x, so, 0);
         Checks.book(x, 0, "day 1;");
         c.due("one that was judged alone is not", x.undo(), -1);

@@ -126,6 +126,24 @@ final class Checks {
         return text.toString();
     }
 
+    /** What each call answers that asks and changes nothing that is so. */
+    static String answers(RingKeepers x) {
+        StringBuilder text = new StringBuilder();
+        for (int p = 0; p <= x.count(0); p++) {
+            text.append(x.tour(p)).append(' ').append(x.tourAt(0)).append(' ').append(x.chain(p)).append(' ')
+                .append(x.closed(p)).append(' ').append(x.note(p)).append(' ').append(x.byteAt(0)).append(' ');
+        }
+        for (int r = 0; r <= x.count(1); r++) {
+            text.append(x.reach(r)).append(' ').append(x.likely(r)).append(' ').append(x.odds(r, 30, 1)).append(' ');
+            for (int p = 0; p <= x.count(0); p++) {
+                text.append(x.fits(r, p)).append(' ');
+            }
+        }
+        text.append(x.inTime()).append(' ').append(x.ways()).append(' ').append(x.keepers()).append(' ');
+        text.append(sizes(x, 0, 1)).append(' ').append(sizes(x, 1, 0)).append(' ').append(x.knuckle());
+        return text.toString();
+    }
+
     /** What calls told last. */
     static String last(RingKeepers x) {
         StringBuilder text = new StringBuilder();

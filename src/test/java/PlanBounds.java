@@ -99,12 +99,21 @@ final class PlanBounds {
         RingKeepers x = Checks.on("person a 0 0 5;person b 0 0 5;ring p 5 a a 0;ring q 5 a b 0;ring r 5 a b 1;ring s 5 b b 2;");
         c.due("all", x.inTime(), 15);
         x.days(1);
+        x.go(0, 0, 0);
+        x.odds(0, 1, 1);
+        x.undo();
+        c.due("all, once that day is undone", x.inTime(), 15);
+        x.days(1);
         c.due("had and missed are not", x.inTime(), 12);
         x.days(1);
         c.due("one is left", x.inTime(), 8);
         x.days(1);
         c.due("none", x.inTime(), 0);
         c.due("without rings", new RingKeepers().inTime(), 0);
+        Checks.isle(x, "person a 0 0 5;ring p 5 a a 9;ring q 5 a a 9;ring r 5 a a 9;jingle 2;");
+        x.wear(0, 0);
+        x.days(1);
+        c.due("a worn one, a kept one, a lost one", x.inTime(), 7);
     }
 
     @Says("and the DAY then is not behind that on which it is due.")
@@ -185,6 +194,10 @@ final class PlanBounds {
         for (int p : NOT_OF_THREE) {
             c.due("tour " + p, x.tour(p), -1);
         }
+        Checks.isle(x, "person a 0 0 5;person b 1 0 5;ring p 5 a b 0;");
+        c.due("the last person", x.tour(1), 1);
+        Checks.isle(x, "person a 0 0 5;ring p 5 a a 0;ring q 5 a a 0;");
+        c.due("no second person", x.tour(1), -1);
     }
 
     @Says("The k-th PERSON (from 0) on it by the latest tour() that was not NONE;")
@@ -543,8 +556,8 @@ final class PlanBounds {
         RingKeepers x = Checks.on("person a 0 0 9;person b 0 0 5;person d 0 0 5;ring p 5 a a 0;ring q 5 a a 0;");
         c.due("b and d alike", x.likely(0), 1);
         c.due("b and d alike", x.likely(1), 1);
-        Checks.isle(x, "person a 0 0 9;person b 0 0 5;person d 0 0 5;ring p 5 a a 0;");
-        c.due("of one ring", x.likely(0), 1);
+        x = Checks.on("person a 0 0 9;person b 0 0 9;person d 0 0 5;ring p 5 a a 0;");
+        c.due("of one ring", x.likely(0), 2);
         StringBuilder text = new StringBuilder();
         for (int i = 0; i < 7; i++) {
             text.append("person ").append((char) ('a' + i)).append(" 0 0 ").append(i == 6 ? 7 : 5).append(";");
@@ -562,10 +575,12 @@ final class PlanBounds {
         RingKeepers x = Checks.on("person a 0 0 5;person b 0 0 5;person d 0 0 5;ring p 5 a a 0;ring q 20 a a 0;");
         c.due("no ways, though it fits", x.likely(0), -1);
         c.due("it fits nobody", x.likely(1), -1);
+        Checks.isle(x, "person a 0 0 5;ring p 5 a a 0;ring q 5 a a 0;ring r 5 a a 0;");
         Checks.isle(x, "person a 0 0 5;person b 0 0 5;person d 0 0 5;ring p 5 a a 0;ring q 5 a a 0;");
         for (int r : NOT_OF_TWO) {
             c.due("likely " + r, x.likely(r), -1);
         }
+        c.due("the last ring", x.likely(1), 0);
         c.due("of no rings", new RingKeepers().likely(0), -1);
     }
 
@@ -618,6 +633,11 @@ final class PlanBounds {
         for (int p : NOT_OF_TWO) {
             c.due("chain " + p, x.chain(p), -1);
         }
+        Checks.isle(x, "person a 0 0 5;person b 0 0 5;person d 0 0 5;ring p 5 d a 0;");
+        c.due("the last of more persons than rings", x.chain(2), 2);
+        c.due("he has no ring", x.chain(1), 1);
+        Checks.isle(x, "person a 0 0 5;ring p 5 a a 0;ring q 5 a a 0;");
+        c.due("no second person", x.chain(1), -1);
     }
 
     @Says({"CLOSED: the next would be he himself.", "Whether it is CLOSED: 1, 0;"})
@@ -640,6 +660,10 @@ final class PlanBounds {
         for (int p : NOT_OF_TWO) {
             c.due("closed " + p, x.closed(p), -1);
         }
+        Checks.isle(x, "person a 0 0 5;person b 0 0 5;person d 0 0 5;ring p 5 d d 0;");
+        c.due("the last of more persons than rings", x.closed(2), 1);
+        Checks.isle(x, "person a 0 0 5;ring p 5 a a 0;ring q 5 a a 0;");
+        c.due("no second person", x.closed(1), -1);
     }
 
     // 30, 31
@@ -691,6 +715,10 @@ final class PlanBounds {
             c.due("note " + p, x.note(p), -1);
         }
         c.due("the latest stays", x.byteAt(0), 'b');
+        Checks.isle(x, "person a 0 0 5;person b 0 0 5;");
+        c.due("the last person", x.note(1), 9);
+        Checks.isle(x, "person a 0 0 5;ring p 5 a a 0;ring q 5 a a 0;");
+        c.due("no second person", x.note(1), -1);
     }
 
     @Says("Byte i of the latest NOTE;")

@@ -103,15 +103,18 @@ final class StoryBounds {
 
     @Says("2: a draw of all RINGS (none: no more draws), of all PERSONS: he HANDS it to that one;")
     static void p32_handsByTwoDraws(Checks c) {
-        String close = "person a 1 1 5;person b 1 1 5;person d 1 1 5;ring p 5 a a 3;ring q 5 a b 9;ring r 5 a d 0;walk 1;";
-        int handed = 0;
-        for (int seed = 0; seed < 40; seed++) {
-            isDrawnAsLived(c, close, 5, seed);
-            RingKeepers x = Checks.on(close);
-            x.drawn(5, seed);
-            handed += x.now(5);
+        String[] close = {"person a 1 1 5;person b 1 1 5;person d 1 1 5;ring p 5 a a 3;ring q 5 a b 9;walk 1;",
+            "person a 1 1 5;person b 1 1 5;ring p 5 a a 3;ring q 5 a b 9;ring r 5 a b 0;walk 1;"};
+        for (String island : close) {
+            int handed = 0;
+            for (int seed = 0; seed < 40; seed++) {
+                isDrawnAsLived(c, island, 5, seed);
+                RingKeepers x = Checks.on(island);
+                x.drawn(5, seed);
+                handed += x.now(5);
+            }
+            c.due("rings were handed", handed > 0, true);
         }
-        c.due("rings were handed", handed > 0, true);
     }
 
     @Says("(none: no more draws)")
@@ -124,7 +127,7 @@ final class StoryBounds {
         withoutRings(c, 3);
         int worn = 0;
         for (int seed = 0; seed < 40; seed++) {
-            String own = "person a 1 1 5;person b 1 1 9;ring p 5 a a 3;ring q 5 a b 9;";
+            String own = "person a 1 1 5;person b 1 1 9;ring p 5 a a 3;ring q 5 a b 9;ring r 5 a b 9;";
             isDrawnAsLived(c, own, 2, seed);
             RingKeepers x = Checks.on(own);
             x.drawn(2, seed);
@@ -302,6 +305,19 @@ final class StoryBounds {
         c.due("where", x.ring(1, 6) * 100 + x.ring(1, 7), 505);
         c.due("found in another", Checks.book(x, 1, "b goes 5 5;b finds s;"), -1);
         c.due("by whom", x.ring(1, 2), 1);
+    }
+
+    @Says("or lived as far as it is not WRONG (1):")
+    static void p34_eachLineIsLivedAsItSays(Checks c) {
+        RingKeepers x = Checks.on("person a 1 1 5;person b 1 1 5;person d 1 1 6;ring p 5 a a 9;ring q 6 b a 9;ring r 5 d b 9;walk 6;");
+        c.due("handed to and fro", Checks.book(x, 1, "a hands p b;b hands r d;d goes 2 3;d goes 1 1;b hands p d;d wears p;"
+            + "a hands q d;d hands r a;"), -1);
+        c.due("kept by a", x.person(0, 4), 4);
+        c.due("kept by b", x.person(1, 4), 0);
+        c.due("kept by d", x.person(2, 4), 2);
+        c.due("worn by d", x.person(2, 5), 0);
+        c.due("handed", x.now(5), 5);
+        c.due("gone", x.now(6), 6);
     }
 
     @Says({"the LINE that is WRONG;", "NONE: none;"})

@@ -428,6 +428,8 @@ final class TextBounds {
         bad(c, "goes 1 1;", 0, 1);
         bad(c, "a 1 1;", 0, 1);
         badBook(c, "  a  b;", 5, 1);
+        badBook(c, "a;", 1, 1);
+        badBook(c, "day 1;a;", 7, 1);
         badBook(c, "fit 1;", 0, 1);
         badSentence(c, "  bare  bare", 8, 1);
         badSentence(c, "person", 0, 1);
