@@ -280,7 +280,7 @@ public final class RingKeepers {
         for (int i = 0; i < n; i++) {
             trial.copyFrom(state);
             trial.drawDays(ODDS_DAYS, seed + i);
-            if (trial.holder[r] == land.owner[r]) {
+            if (trial.isWithOwner(r)) {
                 many++;
             }
         }
@@ -946,6 +946,18 @@ public final class RingKeepers {
             return how[r] == KEPT && holder[r] == p;
         }
 
+        private boolean hasRing(int p, int r) {
+            return land.isRing(r) && holder[r] == p;
+        }
+
+        private boolean isWithOwner(int r) {
+            return holder[r] == land.owner[r];
+        }
+
+        private boolean isBy(int p, int q) {
+            return land.isPerson(q) && farBetween(p, q) == 0;
+        }
+
         private int wornBy(int p) {
             for (int r = 0; r < land.rings; r++) {
                 if (how[r] == WORN && holder[r] == p) {
@@ -1013,7 +1025,7 @@ public final class RingKeepers {
             if (!isKeptBy(r, p)) {
                 return 2;
             }
-            if (farBetween(p, q) != 0) {
+            if (!isBy(p, q)) {
                 return 3;
             }
             holder[r] = q;
@@ -1068,7 +1080,7 @@ public final class RingKeepers {
         private void passDay() {
             for (int r = 0; r < land.rings; r++) {
                 if (land.due[r] == day) {
-                    outcome[r] = holder[r] == land.owner[r] ? HAD : MISSED;
+                    outcome[r] = isWithOwner(r) ? HAD : MISSED;
                 }
             }
             for (int p = 0; p < land.persons; p++) {
@@ -1301,21 +1313,20 @@ public final class RingKeepers {
 
         /** Lives the LINES on the state as far as they are not WRONG: the one that is, or NONE. */
         private int judge(State state) {
-            int line = 0;
             why = 0;
-            while (line < size && why == 0) {
+            good = 0;
+            for (int line = 0; line < size && why == 0; line++) {
                 int whyNot = live(state, line);
                 if (whyNot == 0) {
-                    line++;
+                    good++;
                 } else {
                     why = act[line] + whyNot;
                 }
             }
-            good = line;
             dayThen = state.day;
             lostThen = state.ringsThatAre(State.LOST);
             isJudged = true;
-            return why == 0 ? NONE : line;
+            return why == 0 ? NONE : good;
         }
 
         private int live(State state, int line) {
@@ -1501,8 +1512,8 @@ public final class RingKeepers {
                 case RINGED: return state.wornBy(p) != NONE;
                 case HAPPY: return isHappy(state, p);
                 case BARE: return state.land.ownedBy(p) == 0;
-                case HAS: return state.holder[number[i]] == p;
-                case BY: return state.farBetween(p, number[i]) == 0;
+                case HAS: return state.hasRing(p, number[i]);
+                case BY: return state.isBy(p, number[i]);
                 case KEEPS: return compares(Integer.bitCount(state.keptBy(p)), i);
                 case STEPS: return compares(state.steps[p], i);
                 case FINGER: return compares(state.land.finger[p], i);
