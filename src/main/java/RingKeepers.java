@@ -955,7 +955,7 @@ public final class RingKeepers {
         }
 
         private boolean isBy(int p, int q) {
-            return land.isPerson(q) && farBetween(p, q) == 0;
+            return land.isPerson(q) && x[p] == x[q] && y[p] == y[q];
         }
 
         private int wornBy(int p) {
